@@ -10,7 +10,7 @@ public final class StakeHouse {
     private static final int MOST_GAMES = 4, MOST_STAKE = 32;
     private static final int PARTS = 16, PART_BITS = 4, TENTHS = 10;
     private static final int EVEN = 0, LONG = 1, TAXED = 2;
-    private static final int BOLD = 0, TOLD = 2, DOUBLING = 3;
+    private static final int BOLD = 0, TIMID = 1, TOLD = 2, DOUBLING = 3;
     private static final int REACHES = 0, LOSES = 1, BRINGS = 2, PLAYS = 3;
     private static final int WIDTH = MOST_GOAL + 1;
     // Doubled stakes are 1, 2, 4 .. 32: 32 is above every purse that plays.
@@ -291,7 +291,7 @@ public final class StakeHouse {
         int most = mostStake(g, purse);
         for (int s = 1; s <= most; s++) {
             if (mixed(g, before[raised(g, purse, s)], before[purse - s]) == greatest) {
-                // Stake 32 would not fit an int's bits.
+                // Bit 31 would be an int's sign.
                 bits |= 1L << s;
             }
         }
@@ -304,12 +304,12 @@ public final class StakeHouse {
         switch (plan) {
             case BOLD:
                 return boldStake(g, purse);
+            case TIMID:
+                return 1;
             case TOLD:
                 return Math.min(told[purse], mostStake(g, purse));
-            case DOUBLING:
-                return Math.min(1 << rung, mostStake(g, purse));
             default:
-                return 1;
+                return Math.min(1 << rung, mostStake(g, purse));
         }
     }
 
