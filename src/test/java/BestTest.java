@@ -1,12 +1,7 @@
 /** Promises 6 to 8: best, stakes, mean. */
 public final class BestTest {
-    private static int wrong = 0;
-
     private static void due(String call, long got, long want) {
-        if (got != want) {
-            wrong++;
-            System.out.println(call + " answered " + got + ", due is " + want);
-        }
+        Check.due(call, got, want);
     }
 
     public static void main(String[] args) {
@@ -22,10 +17,7 @@ public final class BestTest {
         answersFollowChanges();
         longestHorizon();
         meanOfTurns();
-        System.out.println(wrong == 0 ? "all answers are as due" : wrong + " answers are not as due");
-        if (wrong != 0) {
-            System.exit(1);
-        }
+        Check.end();
     }
 
     private static void refusals() {

@@ -1,12 +1,7 @@
 /** Promises 1 to 5: a new object, set, game, drop, win. */
 public final class GoalAndGamesTest {
-    private static int wrong = 0;
-
     private static void due(String call, long got, long want) {
-        if (got != want) {
-            wrong++;
-            System.out.println(call + " answered " + got + ", due is " + want);
-        }
+        Check.due(call, got, want);
     }
 
     public static void main(String[] args) {
@@ -19,10 +14,7 @@ public final class GoalAndGamesTest {
         dropLatest();
         winOfKinds();
         winRefusals();
-        System.out.println(wrong == 0 ? "all answers are as due" : wrong + " answers are not as due");
-        if (wrong != 0) {
-            System.exit(1);
-        }
+        Check.end();
     }
 
     private static void newObject() {

@@ -1,12 +1,7 @@
 /** Promises 9 to 14: tell, stake, plan, bold, count, trace. */
 public final class PlansTest {
-    private static int wrong = 0;
-
     private static void due(String call, long got, long want) {
-        if (got != want) {
-            wrong++;
-            System.out.println(call + " answered " + got + ", due is " + want);
-        }
+        Check.due(call, got, want);
     }
 
     public static void main(String[] args) {
@@ -25,10 +20,7 @@ public final class PlansTest {
         boldLooksAtOneGameAlone();
         countOfThings();
         traceOfWins();
-        System.out.println(wrong == 0 ? "all answers are as due" : wrong + " answers are not as due");
-        if (wrong != 0) {
-            System.exit(1);
-        }
+        Check.end();
     }
 
     private static void tellNumbers() {
