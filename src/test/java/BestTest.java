@@ -17,6 +17,8 @@ public final class BestTest {
         answersFollowChanges();
         longestHorizon();
         meanOfTurns();
+        bestTurnByTurn();
+        meanTurnByTurn();
         Check.end();
     }
 
@@ -183,5 +185,42 @@ public final class BestTest {
         due("mean(7, 1): the goal cuts it, and it is let go by", x.mean(7, 1), 112);
         due("mean(1, 1)", x.mean(1, 1), 24);
         due("mean(1, 2)", x.mean(1, 2), 8 * 64);
+    }
+
+    /** "whatever is staked, TURN by TURN, as one sees what came": each turn may have another game. */
+    private static void bestTurnByTurn() {
+        StakeHouse x = new StakeHouse();
+        x.game(0, 16, 0, 0, 1);
+        x.game(0, 4, 0, 0, 4);
+        // From 3 by two: a sure step to 4, then all 4 in the other game.
+        due("best(3, 2) by both games", x.best(3, 2), 16 * 4);
+        due("stakes(0, 3, 2): the sure step first", x.stakes(0, 3, 2), 1L << 1);
+        due("stakes(1, 3, 2): none of the other game does", x.stakes(1, 3, 2), 0);
+        due("stakes(0, 4, 1): then none of the sure game does", x.stakes(0, 4, 1), 0);
+        due("stakes(1, 4, 1): then all of it", x.stakes(1, 4, 1), 1L << 4);
+        // From 4 by three: 2 in the other game. At 6 two sure steps are left,
+        // at 2 twice all of it: what came tells which game is next.
+        due("best(4, 3) by what came", x.best(4, 3), 4 * 256 + 12 * 16);
+        due("stakes(0, 4, 3)", x.stakes(0, 4, 3), 0);
+        due("stakes(1, 4, 3)", x.stakes(1, 4, 3), 1L << 2);
+        due("stakes(0, 6, 2): behind a won turn", x.stakes(0, 6, 2), 1L << 1);
+        due("stakes(1, 6, 2): behind a won turn", x.stakes(1, 6, 2), 0);
+        due("stakes(0, 2, 2): behind a lost turn", x.stakes(0, 2, 2), 0);
+        due("stakes(1, 2, 2): behind a lost turn", x.stakes(1, 2, 2), 1L << 2);
+        x.drop();
+        due("best(4, 3) by sure steps alone", x.best(4, 3), 0);
+    }
+
+    /** The same of MEAN: "the greatest sum, over what may come, of PURSES then times chances". */
+    private static void meanTurnByTurn() {
+        StakeHouse x = new StakeHouse();
+        x.game(0, 16, 0, 0, 1);
+        x.game(0, 12, 0, 0, 32);
+        due("mean(7, 1): the sure step", x.mean(7, 1), 16 * 8);
+        due("mean(3, 1): all 3 in the other game", x.mean(3, 1), 12 * 6);
+        // From 5: 2 in the other game; a sure step at 7, all 3 at 3.
+        due("mean(5, 2) by what came", x.mean(5, 2), 12 * 128 + 4 * 72);
+        x.drop();
+        due("mean(5, 2) by sure steps alone", x.mean(5, 2), 7 * 256);
     }
 }
